@@ -13,6 +13,7 @@ public final class NestsOfTalk {
     private static final int MOST_ODDS = 20;
     private static final int MOST_SPRINGS = 20;
     private static final int DAYS_OF_SPRING = 15;
+    private static final int ALL_BUT_SIGN = 0x7fffffff;
     private static final int SOFT_CUSHION = 20;
     private static final int FIGURE_OF_TWO = 5;
     private static final int MOST_LETTERS = 96;
@@ -178,7 +179,7 @@ public final class NestsOfTalk {
         mind.becomes(now);
         for (int day = 1; day <= MOST_DAYS; day++) {
             mind.passDay();
-            if ((mind.fellToday >> woman & 1) == 1) return day;
+            if ((mind.fallenOf >> woman & 1) == 1) return day;
         }
         return NONE;
     }
@@ -189,7 +190,7 @@ public final class NestsOfTalk {
         mind.becomes(now);
         for (int day = 1; day <= MOST_DAYS; day++) {
             mind.passDay();
-            if (mind.fellToday != 0) return what == 0 ? leastIn(mind.fellToday) : day;
+            if (mind.fallenOf != 0) return what == 0 ? leastWomanOf(mind.fallenOf) : day;
         }
         return NONE;
     }
@@ -502,7 +503,7 @@ public final class NestsOfTalk {
             mind.becomes(now);
             for (int s = 0; s < mind.size; s++) {
                 seed = seed * 1664525 + 1013904223;
-                mind.sayAbout(s, (seed & Integer.MAX_VALUE) / 256 % WOMEN);
+                mind.sayAbout(s, (seed & ALL_BUT_SIGN) / 256 % WOMEN);
             }
             mind.passDays(DAYS_OF_SPRING);
             fallen += mind.fallen;
@@ -548,9 +549,9 @@ public final class NestsOfTalk {
         return woman >= 0 && woman < WOMEN;
     }
 
-    private static int leastIn(int set) {
-        for (int i = 0; i < Integer.SIZE; i++) {
-            if ((set >> i & 1) == 1) return i;
+    private static int leastWomanOf(int set) {
+        for (int woman = 0; woman < WOMEN; woman++) {
+            if ((set >> woman & 1) == 1) return woman;
         }
         return NONE;
     }
@@ -618,8 +619,9 @@ public final class NestsOfTalk {
         int day = 0;
         int robbed = 0;
         int inside = 0;
-        int fellToday = 0;
-        /** Nests that fell since this became a copy; unlike robbed it has no greatest. */
+        /** Women whose nests fell since this became a copy. */
+        int fallenOf = 0;
+        /** How often nests fell since then; unlike robbed it has no greatest. */
         int fallen = 0;
         /** Thoughts only: sayings that no more days wear. */
         int unwearing = 0;
@@ -635,7 +637,7 @@ public final class NestsOfTalk {
             day = other.day;
             robbed = other.robbed;
             inside = other.inside;
-            fellToday = 0;
+            fallenOf = 0;
             fallen = 0;
             unwearing = 0;
             leftOut = 0;
@@ -658,7 +660,7 @@ public final class NestsOfTalk {
         }
 
         int nestOf(int woman) {
-            return allAbout(woman) & inside;
+            return woman >= 0 && woman < WOMEN ? told[woman] & inside : 0;
         }
 
         int saidAbout(int woman) {
@@ -760,12 +762,11 @@ public final class NestsOfTalk {
             inside &= ~set;
             robbed = Math.min(MOST_ROBBED, robbed + 1);
             fallen++;
-            fellToday |= 1 << woman;
+            fallenOf |= 1 << woman;
         }
 
         void passDay() {
             day++;
-            fellToday = 0;
             if (day % 3 == 0) wear(~unwearing);
             for (int woman = 0; woman < WOMEN; woman++) {
                 int said = saidAbout(woman);
@@ -890,11 +891,12 @@ public final class NestsOfTalk {
                     if (!isWoman(one)) return false;
                     talk.bringDown(one);
                     return true;
-                case 'd':
+                case 'd': {
                     int n = 10 * one + other;
                     if (n < 1 || n > MOST_DAYS || talk.day + n > LAST_DAY) return false;
                     talk.passDays(n);
                     return true;
+                }
                 default: return false;
             }
         }

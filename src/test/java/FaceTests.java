@@ -76,7 +76,7 @@ public final class FaceTests {
         for (String word : forbidden) must(!Pattern.compile("\\b" + Pattern.quote(word) + "\\b").matcher(bare).find(), "the word " + word);
         for (String sign : new String[] {"->", "::", "\"", "@"}) must(!bare.contains(sign), "the sign " + sign);
         Matcher called = Pattern.compile("\\b([A-Z][a-z]\\w*)\\.(\\w+)").matcher(bare);
-        List<String> allowed = List.of("Integer.bitCount", "Integer.SIZE", "Integer.MAX_VALUE", "Math.max", "Math.min", "System.arraycopy",
+        List<String> allowed = List.of("Integer.bitCount", "Math.max", "Math.min", "System.arraycopy",
             "Kinds.softOfKind", "Kinds.bindsOfKind", "Kinds.weighsOfKind", "Kinds.ofLetter");
         while (called.find()) must(allowed.contains(called.group()), "a use of " + called.group());
         shortMethods(source);

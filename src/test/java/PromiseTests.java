@@ -724,6 +724,9 @@ public final class PromiseTests {
         due("two(0, 1, 22): eight, so only the first's has room", x.two(0, 1, 22), 11);
         tell(x, "sg03;");
         due("two(0, 1, 22): nine, nothing is told", x.two(0, 1, 22), 0);
+        due("two(0, 1, 12): by FIGURE 4 or 6 it were 0", told("sm60;sm60;sl90;sl50;sl90;sp00;sm40;sp40;").two(0, 1, 12), 11);
+        due("two(0, 1, 24): not by 1, which the other had better leave",
+            told("sm20;st91;st40;sp31;sp01;sl21;sp41;sp31;").two(0, 1, 24), 10);
     }
 
     private static void rain() {
@@ -781,6 +784,9 @@ public final class PromiseTests {
         due("mean(2)", x.mean(2), LONG + 2);
         due("mean(-1)", x.mean(-1), LONG + 2);
         refused(x, 0, 2, 0, 0, 0);
+        x = told("sg53;t0;");
+        due("mean(0) of one", x.mean(0), 5);
+        due("mean(1) of one", x.mean(1), 1);
         x = told("sm50;sm51;t0;t1;");
         due("mean(0)", x.mean(0), 0);
         due("mean(1)", x.mean(1), 1);
@@ -948,6 +954,51 @@ public final class PromiseTests {
         refused(x, 0, 0, 1, 0, 0);
     }
 
+    /** What is thought for one call is forgotten for the next. */
+    private static void thoughtsAreForgotten() {
+        String[] texts = {"sm20;sp50;", "sg50;sp70;sg51;sp11;sg90;sg90;sg90;", "sp20;sl52;sm52;sm52;"};
+        int[] promises = {12, 13, 14, 15, 15, 16, 26, 27, 28, 29, 30, 36, 32, 34};
+        for (String text : texts) {
+            long[] alone = new long[promises.length];
+            for (int i = 0; i < alone.length; i++) alone[i] = thought(told(text), i);
+            NestsOfTalk x = told(text);
+            for (int i = 0; i < alone.length; i++) {
+                for (int j = 0; j < alone.length; j++) {
+                    thought(x, i);
+                    promise = promises[j];
+                    due("thought " + j + " behind thought " + i + " of " + text, thought(x, j), alone[j]);
+                }
+            }
+        }
+    }
+
+    private static long thought(NestsOfTalk x, int which) {
+        switch (which) {
+            case 0: return x.nestThen(0, 7, 1);
+            case 1: return x.robbedThen(9);
+            case 2: return x.falls(0);
+            case 3: return 100 * x.first(0) + x.first(1);
+            case 4: return x.first(2);
+            case 5: return 100 * x.cushion(0) + x.cushion(1);
+            case 6: return x.keep(7);
+            case 7: return x.hush(7);
+            case 8: return 100 * x.add(0, 7, 0) + x.add(0, 7, 1);
+            case 9: return x.two(0, 1, 7);
+            case 10: return 1000 * x.rain(0, 3, 3, 0) + x.rain(0, 3, 3, 1);
+            case 11: return x.lots(2, 5, 0);
+            case 12: {
+                x.row(0);
+                int was = x.whatWas(1, 1);
+                x.clear();
+                return was;
+            }
+            default: {
+                x.row(0);
+                return x.judge();
+            }
+        }
+    }
+
     private static void count() {
         promise = 39;
         NestsOfTalk x = told("sg50;sp71;sm92;sg40;t0;t2;t3;d03;w17;");
@@ -1015,6 +1066,7 @@ public final class PromiseTests {
         clear();
         lots();
         imageAndOn();
+        thoughtsAreForgotten();
         count();
         System.out.println(answers + " answers looked at, " + wrong + " wrong");
         if (wrong != 0) System.exit(1);
