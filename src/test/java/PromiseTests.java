@@ -961,8 +961,8 @@ public final class PromiseTests {
         for (String text : texts) {
             long[] alone = new long[promises.length];
             for (int i = 0; i < alone.length; i++) alone[i] = thought(told(text), i);
-            NestsOfTalk x = told(text);
             for (int i = 0; i < alone.length; i++) {
+                NestsOfTalk x = told(text);
                 for (int j = 0; j < alone.length; j++) {
                     thought(x, i);
                     promise = promises[j];
