@@ -842,6 +842,7 @@ public final class EdgeTests {
         due("prop(0): one of two is enough", nested("sm20;sm20;sp50;").prop(0), 0);
         due("prop(0): both are needed", nested("sm20;sm20;sp50;sp50;").prop(0), 3);
         due("prop(0): what is SAID is not IN it", told("sm20;sp50;t0;").prop(0), 0);
+        due("prop(0): nor where it does not hold", told("sp00;sp00;sg50;t0;t1;").prop(0), 3);
         due("prop(3): the ninth", nested("sg03;".repeat(7) + "sp03;sm23;").prop(3), 256);
         due("prop(0): all of a nest that never holds", nested("sp00;sp00;sp00;").prop(0), 7);
         due("prop(0): none, one praise alone", nested("sp00;").prop(0), 0);

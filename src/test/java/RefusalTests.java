@@ -265,6 +265,33 @@ public final class RefusalTests {
         refused("whatWas", NestsOfTalk::new, false, -1, false, (x, a) -> x.whatWas(a[0], 0), 0);
     }
 
+    /** A CLOSE with a FAULT told of two more, and add thought of one more: there is still only one. */
+    private static NestsOfTalk thoughtOfMore() {
+        NestsOfTalk x = told("sg50;");
+        letters(x, "sg51;sg52;b9;");
+        x.close();
+        return x;
+    }
+
+    private static NestsOfTalk thoughtOfOneMore() {
+        NestsOfTalk x = told("sg50;");
+        x.add(0, 0, 0);
+        return x;
+    }
+
+    private static void whereMoreWasThoughtOf() {
+        List<Maker> makers = List.of(RefusalTests::thoughtOfMore, RefusalTests::thoughtOfOneMore);
+        for (Maker maker : makers) {
+            refused("saying", maker, false, -1, false, (x, a) -> x.saying(a[0], 0), 1);
+            refused("takes", maker, false, -1, false, (x, a) -> x.takes(a[0]), 1);
+            refused("wears", maker, false, -1, false, (x, a) -> x.wears(a[0], 4), 1);
+            refused("concerns", maker, false, -1, false, (x, a) -> x.concerns(a[0], 2), 1);
+            refused("turn", maker, false, -1, false, (x, a) -> x.turn(a[0], 2, 4), 1);
+            refused("about", maker, false, -1, false, (x, a) -> x.about(a[0], 0), 1);
+            refused("whatWas", maker, false, -1, false, (x, a) -> x.whatWas(a[0], 0), 1);
+        }
+    }
+
     /** Calls that refuse nothing: whatever they answer, and also a close with a FAULT, no refusal is counted. */
     private static void neverRefused() {
         List<Maker> makers = List.of(NestsOfTalk::new, RefusalTests::some, RefusalTests::full);
@@ -308,6 +335,7 @@ public final class RefusalTests {
         whereItIsFull();
         whereDaysEnd();
         whereItIsEmpty();
+        whereMoreWasThoughtOf();
         neverRefused();
         counted();
         System.out.println(calls + " calls refused or taken as due, " + wrong + " answers wrong");
